@@ -608,7 +608,7 @@ public final class DominoParlour {
             turns.addPlay(onTurn, bone, side);
             if (hands[onTurn] == 0) {
                 int winners = sideOf(onTurn);
-                finish(winners, weightOf(othersBones(winners)));
+                finish(winners, othersWeight(winners));
             } else {
                 onTurn = seatBehind(onTurn);
             }
@@ -643,24 +643,24 @@ public final class DominoParlour {
             return true;
         }
 
-        private int sideBones(int side) {
+        private int sideWeight(int side) {
             int set = 0;
             for (int seat = 0; seat < hands.length; seat++) {
                 if (sideOf(seat) == side) {
                     set |= hands[seat];
                 }
             }
-            return set;
+            return weightOf(set);
         }
 
-        private int othersBones(int side) {
-            int set = 0;
-            for (int seat = 0; seat < hands.length; seat++) {
-                if (sideOf(seat) != side) {
-                    set |= hands[seat];
+        private int othersWeight(int side) {
+            int weight = 0;
+            for (int other = 0; other < sides(); other++) {
+                if (other != side) {
+                    weight += sideWeight(other);
                 }
             }
-            return set;
+            return weight;
         }
 
         private void finish(int side, int gain) {
@@ -675,7 +675,7 @@ public final class DominoParlour {
             int least = 0;
             boolean shared = false;
             for (int side = 0; side < sides(); side++) {
-                int weight = weightOf(sideBones(side));
+                int weight = sideWeight(side);
                 if (best == NONE || weight < least) {
                     best = side;
                     least = weight;
@@ -687,13 +687,13 @@ public final class DominoParlour {
             if (shared) {
                 finish(NONE, 0);
             } else {
-                finish(best, weightOf(othersBones(best)) - least);
+                finish(best, othersWeight(best) - least);
             }
         }
 
         private int worthFor(int side) {
             if (state != OVER) {
-                return weightOf(othersBones(side)) - weightOf(sideBones(side));
+                return othersWeight(side) - sideWeight(side);
             }
             if (gainer == NONE) {
                 return 0;
@@ -730,9 +730,7 @@ public final class DominoParlour {
         }
 
         private long all(int viewer) {
-            int unseen = unseenBy(viewer);
-            admit(viewer, unseen, NONE, 0);
-            return count(unseen);
+            return withSeatLacking(viewer, NONE, 0);
         }
 
         private long withSeatLacking(int viewer, int seat, int lacked) {
