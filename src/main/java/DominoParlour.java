@@ -574,11 +574,8 @@ public final class DominoParlour {
             return pips >= 0 && pips < bearing.length ? bearing[pips] : 0;
         }
 
-        /** The bones that the row takes now, whoever has them. */
+        /** The bones that could be laid at an end of the row now, whoever has them. */
         private int openBones() {
-            if (line.isEmpty()) {
-                return (1 << bones) - 1;
-            }
             return bonesBearing(line.pipsAt(LEFT)) | bonesBearing(line.pipsAt(RIGHT));
         }
 

@@ -542,6 +542,17 @@ public final class PromiseTest {
             due("13: row(" + i + ")", x.row(i), NONE);
         }
         longRow();
+        rowOfALaterHand();
+    }
+
+    private static void rowOfALaterHand() {
+        DominoParlour x = new DominoParlour(6, 2, 1000);
+        for (int hand = 0; hand < 60; hand++) {
+            givenAndBegun(x, 0, new int[][] {{1}, {0}});
+            due("13: play", x.play(1, 0), 1);
+            due("13: row(0) of hand " + hand, x.row(0), 1);
+            due("13: bones in the row of hand " + hand, x.about(4), 1);
+        }
     }
 
     private static void longRow() {
