@@ -43,7 +43,7 @@ public final class DominoParlour {
         int heldSeats = Math.max(2, Math.min(4, seats));
         this.target = Math.max(1, Math.min(1000, target));
         table = new Table(heldTop, heldSeats);
-        scores = new int[heldSeats == PARTNERED_SEATS ? 2 : heldSeats];
+        scores = new int[Math.max(0, table.sides())];
         tally = new Tally(table);
         search = new Search(table);
     }
@@ -178,8 +178,10 @@ public final class DominoParlour {
     public int safest() {
         int best = NONE;
         long most = NONE;
+        int left = table.playsAt(LEFT);
+        int right = table.playsAt(RIGHT);
         for (int code = 0; code < 2 * table.bones; code++) {
-            if (table.isPlay(code)) {
+            if (isPlay(code, left, right)) {
                 long blocked = dealsBlocking(code >> 1, code & 1);
                 if (blocked > most) {
                     most = blocked;
@@ -266,14 +268,9 @@ public final class DominoParlour {
         return NONE;
     }
 
-    private static int weightOf(int set) {
-        int weight = 0;
-        for (int bone = 0; bone < MOST_BONES; bone++) {
-            if (isIn(set, bone)) {
-                weight += lowOf(bone) + highOf(bone);
-            }
-        }
-        return weight;
+    /** Whether 2 times a bone, and an end, is among the bones that can go to the left and right end. */
+    private static boolean isPlay(int code, int left, int right) {
+        return isIn((code & 1) == LEFT ? left : right, code >> 1);
     }
 
     /** The row of bones on the table, each turned so that it meets its neighbours. */
@@ -446,6 +443,7 @@ public final class DominoParlour {
         private final int seats;
         private final int bones;
         private final int[] hands;
+        private final int[] weights;
         private final int[] bearing = new int[7];
         private final int[] order;
         private final Line line = new Line();
@@ -461,6 +459,7 @@ public final class DominoParlour {
             this.seats = seats;
             bones = (top + 1) * (top + 2) / 2;
             hands = new int[Math.max(0, seats)];
+            weights = new int[Math.max(0, sides())];
             order = new int[Math.max(0, bones)];
             for (int pips = 0; pips < bearing.length; pips++) {
                 for (int bone = 0; bone < bones && bone < MOST_BONES; bone++) {
@@ -516,6 +515,7 @@ public final class DominoParlour {
             share = h;
             stock = (1 << bones) - 1;
             Arrays.fill(hands, 0);
+            Arrays.fill(weights, 0);
             line.clear();
             turns.clear();
             onTurn = NONE;
@@ -524,9 +524,29 @@ public final class DominoParlour {
         }
 
         private void takeFromStock(int seat, int bone) {
-            if (isSeat(seat) && isIn(stock, bone)) {
+            if (isIn(stock, bone)) {
                 stock &= ~(1 << bone);
+                pickUp(seat, bone);
+            }
+        }
+
+        private void pickUp(int seat, int bone) {
+            if (isSeat(seat) && bone >= 0 && bone < bones) {
                 hands[seat] |= 1 << bone;
+                addWeight(sideOf(seat), lowOf(bone) + highOf(bone));
+            }
+        }
+
+        private void putDown(int seat, int bone) {
+            if (isSeat(seat) && bone >= 0 && bone < bones) {
+                hands[seat] &= ~(1 << bone);
+                addWeight(sideOf(seat), -lowOf(bone) - highOf(bone));
+            }
+        }
+
+        private void addWeight(int side, int weight) {
+            if (side >= 0 && side < weights.length) {
+                weights[side] += weight;
             }
         }
 
@@ -589,10 +609,13 @@ public final class DominoParlour {
             return (end == LEFT || end == RIGHT) && isIn(bonesBearing(line.pipsAt(end)), bone);
         }
 
-        /** Whether 2 times a bone, and an end, is a play: on an empty row each bone has only one. */
-        private boolean isPlay(int code) {
-            int end = code & 1;
-            return (end == LEFT || !line.isEmpty()) && canPut(code >> 1, end);
+        /** The bones that the seat on turn can play at an end: on an empty row all, at the left alone. */
+        private int playsAt(int end) {
+            if (state != PLAYED) {
+                return 0;
+            }
+            int allowed = line.isEmpty() ? (end == LEFT ? -1 : 0) : bonesBearing(line.pipsAt(end));
+            return handOf(onTurn) & allowed;
         }
 
         private void put(int bone, int end) {
@@ -601,7 +624,7 @@ public final class DominoParlour {
             }
             int side = line.isEmpty() ? LEFT : end;
             line.add(bone, side);
-            hands[onTurn] &= ~(1 << bone);
+            putDown(onTurn, bone);
             turns.addPlay(onTurn, bone, side);
             if (hands[onTurn] == 0) {
                 int winners = sideOf(onTurn);
@@ -630,7 +653,7 @@ public final class DominoParlour {
             }
             if (bone != NONE) {
                 line.drop(turns.endOf(last));
-                hands[seat] |= 1 << bone;
+                pickUp(seat, bone);
             }
             turns.dropLast();
             state = PLAYED;
@@ -641,20 +664,14 @@ public final class DominoParlour {
         }
 
         private int sideWeight(int side) {
-            int set = 0;
-            for (int seat = 0; seat < hands.length; seat++) {
-                if (sideOf(seat) == side) {
-                    set |= hands[seat];
-                }
-            }
-            return weightOf(set);
+            return side >= 0 && side < weights.length ? weights[side] : 0;
         }
 
         private int othersWeight(int side) {
             int weight = 0;
-            for (int other = 0; other < sides(); other++) {
+            for (int other = 0; other < weights.length; other++) {
                 if (other != side) {
-                    weight += sideWeight(other);
+                    weight += weights[other];
                 }
             }
             return weight;
@@ -669,22 +686,19 @@ public final class DominoParlour {
 
         private void finishStuck() {
             int best = NONE;
-            int least = 0;
             boolean shared = false;
-            for (int side = 0; side < sides(); side++) {
-                int weight = sideWeight(side);
-                if (best == NONE || weight < least) {
+            for (int side = 0; side < weights.length; side++) {
+                if (best == NONE || weights[side] < sideWeight(best)) {
                     best = side;
-                    least = weight;
                     shared = false;
-                } else if (weight == least) {
+                } else if (weights[side] == sideWeight(best)) {
                     shared = true;
                 }
             }
             if (shared) {
                 finish(NONE, 0);
             } else {
-                finish(best, othersWeight(best) - least);
+                finish(best, othersWeight(best) - sideWeight(best));
             }
         }
 
@@ -850,8 +864,10 @@ public final class DominoParlour {
             boolean ours = table.sideOf(table.onTurn) == side;
             int choice = NONE;
             int worth = 0;
+            int leftPlays = table.playsAt(LEFT);
+            int rightPlays = table.playsAt(RIGHT);
             for (int code = 0; code < 2 * table.bones; code++) {
-                if (table.isPlay(code)) {
+                if (isPlay(code, leftPlays, rightPlays)) {
                     table.put(code >> 1, code & 1);
                     int got = behindTurn(left);
                     if (choice == NONE || (ours ? got > worth : got < worth)) {
