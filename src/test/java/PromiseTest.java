@@ -1,42 +1,28 @@
 /** For each promise of the document: ordinary calls, its edges, and wrong inputs, with answers worked out by hand. */
 public final class PromiseTest {
-    private static final int NONE = DominoParlour.NONE;
-    private static final int FAR = Integer.MAX_VALUE;
-    private static final int LOW = Integer.MIN_VALUE;
-
-    private static int wrong = 0;
+    private static final int NONE = Kit.NONE;
+    private static final int FAR = Kit.FAR;
+    private static final int LOW = Kit.LOW;
 
     private static void due(String call, long got, long want) {
-        if (got != want) {
-            wrong++;
-            System.out.println(call + " answered " + got + ", due is " + want);
-        }
+        Kit.due(call, got, want);
     }
 
     private static void due(String call, boolean got, boolean want) {
-        due(call, got ? 1 : 0, want ? 1 : 0);
+        Kit.due(call, got, want);
     }
 
-    /** A hand that is given out as told (a row of bones for each seat) and begun. */
     private static DominoParlour begun(int top, int target, int leader, int[][] hands) {
-        DominoParlour x = new DominoParlour(top, hands.length, target);
-        givenAndBegun(x, leader, hands);
-        return x;
+        return Kit.begun(top, target, leader, hands);
     }
 
     private static void givenAndBegun(DominoParlour x, int leader, int[][] hands) {
-        due("set-up lay", x.lay(hands[0].length) >= 0, true);
-        for (int seat = 0; seat < hands.length; seat++) {
-            for (int k = 0; k < hands[seat].length; k++) {
-                due("set-up give", x.give(seat, hands[seat][k]), k + 1);
-            }
-        }
-        due("set-up begin", x.begin(leader), true);
+        Kit.givenAndBegun(x, leader, hands);
     }
 
     /** Bones of top 2: 0 (0,0), 1 (0,1), 2 (1,1), 3 (0,2), 4 (1,2), 5 (2,2). */
     private static DominoParlour small() {
-        return begun(2, 10, 0, new int[][] {{0, 4}, {1, 5}});
+        return Kit.played();
     }
 
     private static void promise1() {
@@ -951,9 +937,6 @@ public final class PromiseTest {
         promise18();
         promise19();
         promise20();
-        System.out.println(wrong == 0 ? "promises: all answers are as due" : "promises: " + wrong + " answers are wrong");
-        if (wrong != 0) {
-            System.exit(1);
-        }
+        Kit.end("promises");
     }
 }
