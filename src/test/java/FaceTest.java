@@ -22,6 +22,11 @@ public final class FaceTest {
         "->", "::", "\\bpackage\\b", "\\bstatic\\s*\\{", "\\bSystem\\.(?!arraycopy)", "\\bRandom\\b", "\\bThread\\b",
         "Exact\\b", "\\bprotected\\b", "\\bnative\\b", "\\btransient\\b", "\\bvolatile\\b");
 
+    /** The kinds of static fields that rule 5 allows. */
+    private static final List<Class<?>> CONSTANTS = List.of(
+        int.class, long.class, boolean.class, char.class, String.class,
+        int[].class, long[].class, char[].class, byte[].class);
+
     private static int wrong = 0;
 
     private static void bad(String what) {
@@ -68,6 +73,34 @@ public final class FaceTest {
             }
         }
         inside(c, names);
+        state(c);
+    }
+
+    /** The constant of the document, and no static state beside constants. */
+    private static void state(Class<?> c) throws Exception {
+        Field none = c.getField("NONE");
+        boolean constant = Modifier.isStatic(none.getModifiers()) && Modifier.isFinal(none.getModifiers());
+        if (!constant || none.getType() != int.class || none.getInt(null) != -1) {
+            bad("NONE is no constant, or not -1");
+        }
+        noStaticState(c);
+        for (Class<?> part : c.getDeclaredClasses()) {
+            noStaticState(part);
+        }
+    }
+
+    private static void noStaticState(Class<?> c) {
+        int ofObjects = 0;
+        for (Field f : c.getDeclaredFields()) {
+            if (!Modifier.isStatic(f.getModifiers())) {
+                ofObjects++;
+            } else if (!Modifier.isFinal(f.getModifiers()) || !CONSTANTS.contains(f.getType())) {
+                bad("static state: " + f.getName());
+            }
+        }
+        if (ofObjects > 20) {
+            bad("too many fields: " + c.getName());
+        }
     }
 
     private static void inside(Class<?> c, TreeSet<String> names) {
